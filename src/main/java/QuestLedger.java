@@ -71,7 +71,7 @@ public final class QuestLedger {
     private int latestErrorOffset = -1;
 
     private final Ledger now = new Ledger();
-    /** Holds what is only tried out: a text while it is read, a campaign while it is foretold. */
+    /** Holds what is only tried out: a text, a campaign, a stock with more of an item. */
     private final Ledger draft = new Ledger();
     private final History history = new History();
     private final SetupReader reader = new SetupReader();
@@ -879,7 +879,7 @@ public final class QuestLedger {
             return length < NO_WAY ? length : -1;
         }
 
-        /** Asked only where the plan goes on. */
+        /** The smallest step that leads on along a shortest way; asked only where the plan goes on. */
         int nextOfPlan(int set) {
             for (int step = 0; step < STEPS; step++) {
                 boolean canBeTried = (at(stepsToTry, set) >>> step & 1) != 0;

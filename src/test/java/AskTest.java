@@ -90,6 +90,11 @@ public final class AskTest {
         Check.due("lost", 2, () -> x.quest(1, 1));
         Check.due("broken", 1, () -> x.quest(1, 3));
         Check.due("nothing can be tried in a lost quest", 0, () -> x.quest(1, 7));
+        QuestLedger y = Check.loaded("ledger;quest 0 0;step 100 1;step 0 1;step 100 1;step 0 1;goal 1;");
+        y.attempt(0, 2);
+        y.attempt(0, 0);
+        Check.due("two broken ones", 5, () -> y.quest(0, 3));
+        Check.due("the others can be tried", 10, () -> y.quest(0, 7));
     }
 
     private static void step() {
@@ -171,7 +176,8 @@ public final class AskTest {
             + "quest 0 0;step 0 1;step 0 1;step 0 1;goal 2 of (0,0,1 and 2);"
             + "quest 0 0;step 0 1;step 0 1;goal 3 of (0,1);"
             + "quest 0 0;" + "step 0 1;".repeat(6) + "goal 6 of (0,1,2,3,4,5) or (0 or 1) and 2;"
-            + "quest 0 0;" + "step 0 1;".repeat(6) + "goal 3 of (0,1,2 of (2,3,4),5,2);");
+            + "quest 0 0;" + "step 0 1;".repeat(6) + "goal 3 of (0,1,2 of (2,3,4),5,2);"
+            + "quest 0 0;" + "step 0 1;".repeat(6) + "goal 1 and 5 or 5 or 2 of ((2 of (2 of (0,1),3))or 2 of(4,2),0);");
         for (int steps = 0; steps < 64; steps++) {
             int set = steps;
             boolean has0 = (set & 1) != 0;
@@ -184,10 +190,12 @@ public final class AskTest {
             Check.due("six " + set, set == 63 || (has0 || has1) && has2, () -> x.holds(3, set));
             int held = Integer.bitCount(set & 3) + (of234 >= 2 ? 1 : 0) + (set >> 5) + (has2 ? 1 : 0);
             Check.due("nested " + set, held >= 3, () -> x.holds(4, set));
+            boolean inner = (set & 11) == 11 || (set & 20) == 20;
+            Check.due("nested deep " + set, set >= 32 || inner && has0, () -> x.holds(5, set));
         }
         for (int steps : new int[] {-1, 64, Integer.MIN_VALUE, Integer.MAX_VALUE}) {
             Check.due("holds " + steps, Check.ARGUMENT, () -> x.holds(0, steps));
-            Check.due("no quest, holds " + steps, Check.INDEX, () -> x.holds(5, steps));
+            Check.due("no quest, holds " + steps, Check.INDEX, () -> x.holds(6, steps));
             Check.due("quest -1, holds " + steps, Check.INDEX, () -> x.holds(-1, steps));
         }
         x.giveUp(0);
@@ -206,6 +214,9 @@ public final class AskTest {
         x.undo();
         x.attempt(0, 0);
         Check.due("all", 1.0f, x::progress);
+        QuestLedger y = Check.loaded("ledger;quest 0 0;step 0 1;goal 0;");
+        y.attempt(0, 0);
+        Check.due("the only one", 1.0f, y::progress);
         Check.due("without steps", 0.0f, () -> Check.loaded("ledger;").progress());
     }
 }

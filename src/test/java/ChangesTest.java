@@ -388,7 +388,7 @@ public final class ChangesTest {
         switch (n) {
             case 0: x.tell(1, 2); break;
             case 1: x.attempt(0, 1); break;
-            case 2: x.add(5, 5); break;
+            case 2: x.spend(0, 5); break;
             case 3: x.play(1); break;
             case 4: Check.load(x, "ledger;stock 6 6;worth 3;quest 0 1;step 1 2 uses 3 3 needs 4 4 gives 5 5 costly;step 0 1 after 0;goal 1;"); break;
             case 5: x.mend(0, 0); break;

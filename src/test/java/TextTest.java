@@ -124,6 +124,26 @@ public final class TextTest {
         Check.due("older gives are gone", 0, () -> y.amount(0, 0, 2, 2));
         Check.due("older costly is gone", 0, () -> y.step(0, 0, 5));
         Check.due("older after is gone", 0, () -> y.step(0, 1, 4));
+        Check.due("older steps are gone", 2, () -> y.quest(0, 0));
+        leftovers();
+    }
+
+    /** What an earlier load, a campaign or a question left behind does not come into the next text. */
+    private static void leftovers() {
+        QuestLedger x = Check.loaded("ledger;stock 2 5 3 1;quest 0 3;step 0 1;step 50 1;goal 0 and 1;quest 0 0;step 0 1;goal 0;");
+        x.tell(0, 1);
+        x.attempt(0, 0);
+        x.giveUp(1);
+        Check.due("one quest is left", 1, x::campaign);
+        Check.due("a question", -1, () -> x.lacking(1, 4));
+        Check.due("stock may be told again", 2, () -> Check.load(x, "ledger;stock 3 2;quest 0 3;step 0 1;goal 0;quest 0 0;step 0 1;goal 0;"));
+        Check.due("stock that is not told", 0, () -> x.stock(2));
+        Check.due("stock that is told", 2, () -> x.stock(3));
+        Check.due("the queue", 0, () -> x.state(6));
+        Check.due("one step each", 2, () -> x.state(1));
+        Check.due("none is lost", 0, () -> x.state(3));
+        Check.due("no step is done", 0, () -> x.state(4));
+        Check.due("all can be done", 2, () -> x.state(8));
     }
 
     private static void good(String text, int quests) {
@@ -198,6 +218,16 @@ public final class TextTest {
         bad(SYNTAX, "ledger;quest 0 0;", "goal 0;");
         bad(SYNTAX, "ledger;quest 0 0;step 0 1;", "quest 0 0;");
         bad(SYNTAX, "ledger;quest 0 0;step 0 1;", "seed 0;");
+        bad(SYNTAX, "ledger;quest 0 0;step 0 1;", "goalz 0;");
+        bad(SYNTAX, "ledger;quest 0 0;step 0 1;", "goala 0;");
+        bad(SYNTAX, "ledger;quest 0 0;step 0 1;goal", "Z 0;");
+        bad(SYNTAX, "ledger;seed", "`5;");
+        bad(SYNTAX, "ledger;seed", "{5;");
+        bad(SYNTAX, "ledger;seed 5", ":");
+        bad(SYNTAX, "ledger;seed ", "/5;");
+        bad(SYNTAX, "ledger;seed", "\t5;");
+        bad(SYNTAX, "ledger;seed", "\u00005;");
+        bad(SYNTAX, "ledger;seed 5", "\u00a0;");
         bad(SYNTAX, "ledger;quest 0 0;step 0 1;", "");
         bad(SYNTAX, "ledger;quest 0 0;step ", ";");
         bad(SYNTAX, "ledger;quest 0 0;step 0", ";");

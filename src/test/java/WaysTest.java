@@ -2,6 +2,7 @@
 public final class WaysTest {
     public static void main(String[] args) {
         noSuchThings();
+        eachForItself();
         possible();
         plans();
         safest();
@@ -25,6 +26,34 @@ public final class WaysTest {
         }
         Check.due("lacking item 8", Check.INDEX, () -> x.lacking(0, 8));
         Check.due("lacking item -1", Check.INDEX, () -> x.lacking(0, -1));
+    }
+
+    /** Each call finds out by itself what the way is, whatever was asked before. */
+    private static void eachForItself() {
+        QuestLedger x = Check.loaded("ledger;quest 0 0;step 10 1;step 10 1;goal 0 and 1;quest 0 0;step 0 1;step 20 1;goal 1;"
+            + "quest 0 0;step 0 1 uses 0 1;goal 0;");
+        for (int n = 0; n < 7; n++) {
+            int kind = n;
+            Check.due("of 0, call " + n, (double) new int[] {1, 2, 1, 20, 1, 0, 81}[n], () -> ask(x, kind, 0, 1));
+            Check.due("of 1, call " + n, (double) new int[] {1, 1, 1, 20, 2, 0, 80}[n], () -> ask(x, kind, 1, 0));
+            Check.due("of 2, call " + n, kind == 2 ? (Object) Check.ELEMENT : (Object) (double) new int[] {0, -1, 0, -1, 0, 1, 0}[n],
+                () -> ask(x, kind, 2, 0));
+            Check.due("of 0 again, call " + n, (double) new int[] {1, 2, 1, 20, 1, 0, 81}[n], () -> ask(x, kind, 0, 1));
+            Check.due("another question", true, () -> x.possible(1));
+            Check.due("of 0 behind 1, call " + n, (double) new int[] {1, 2, 1, 20, 1, 0, 81}[n], () -> ask(x, kind, 0, 1));
+        }
+    }
+
+    private static Object ask(QuestLedger x, int kind, int quest, int k) {
+        switch (kind) {
+            case 0: return x.possible(quest) ? 1.0 : 0.0;
+            case 1: return (double) x.planLength(quest);
+            case 2: return (double) x.planStep(quest, k);
+            case 3: return (double) x.safest(quest);
+            case 4: return (double) x.endings(quest);
+            case 5: return (double) x.lacking(quest, 0);
+            default: return (double) Math.round(100 * x.chance(quest));
+        }
     }
 
     private static void plan(QuestLedger x, int quest, int... steps) {
@@ -78,6 +107,11 @@ public final class WaysTest {
         plan(x, 0, 1, 2);
         x.attempt(0, 2);
         plan(x, 0, 1);
+        // 1 is not to be tried behind 0, although both of them can be done the other way round.
+        plan(Check.loaded("ledger;stock 0 1;quest 0 0;step 0 1 uses 0 1;step 0 1 needs 0 1;step 0 1;step 0 1;step 0 1;"
+            + "goal 0 and 1 and 4 or 0 and 2 and 3;"), 0, 0, 2, 3);
+        plan(Check.loaded("ledger;quest 0 0;step 0 1 uses 7 1;step 0 1 uses 7 1;step 0 1 uses 7 1;step 0 1 uses 7 1;"
+            + "step 0 1 gives 7 3;step 0 1 gives 7 1;goal 4 of (0,1,2,3);"), 0, 4, 0, 1, 2, 5, 3);
         plan(Check.loaded("ledger;quest 5 50;step 0 1;goal 0;quest 5 0;step 0 1 uses 5 1;goal 0;"), 1);
     }
 
@@ -88,6 +122,9 @@ public final class WaysTest {
         Check.due("none", -1, () -> x.safest(1));
         Check.due("a sure fail is a way too", 100, () -> x.safest(2));
         Check.due("no risk", 0, () -> x.safest(3));
+        QuestLedger z = Check.loaded("ledger;quest 0 0;step 0 1;step 50 1;step 7 1;goal 0 or 1 or 2;quest 0 0;step 1 1;step 50 1;goal 0 or 1;");
+        Check.due("no risk, and then more", 0, () -> z.safest(0));
+        Check.due("1, and then more", 1, () -> z.safest(1));
         x.tell(20, 0);
         x.attempt(0, 1);
         Check.due("what is done counts no more", 30, () -> x.safest(0));

@@ -70,6 +70,7 @@ public final class WorthTest {
         worthOf(15, 0, "1+2*(1+2*(1+2*1))");
         worthOf(31, 0, "1+2*(1+2*(1+2*(1+2*1)))");
         worthOf(47, 0, "1+2*(1+2*(1+2*(1+2*(1+1))))");
+        worthOf(63, 0, "1+2*(1+2*(1+2*(1+2*(1+2*1))))");
     }
 
     private static void limits() {
