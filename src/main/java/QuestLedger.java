@@ -1169,8 +1169,8 @@ public final class QuestLedger {
 
     private static final class SetupReader {
         private final Tokens tokens = new Tokens();
-        private final GoalReader goals = new GoalReader(tokens);
-        private final WorthReader worths = new WorthReader(tokens);
+        private final GoalReader goals = new GoalReader();
+        private final WorthReader worths = new WorthReader();
         private int stockTold = 0;
         private boolean seedTold = false;
         private boolean worthTold = false;
@@ -1234,7 +1234,7 @@ public final class QuestLedger {
         private void readWorth(Ledger into) {
             tokens.skip();
             into.worthLength = 0;
-            worths.readSum(into, 0);
+            worths.readSum(tokens, into, 0);
             tokens.expect(Token.SEMICOLON);
             worthTold = true;
         }
@@ -1255,7 +1255,7 @@ public final class QuestLedger {
                 readStep(quest);
             }
             tokens.expect(Token.GOAL);
-            quest.goal = goals.readGoal(quest.stepCount, 0);
+            quest.goal = goals.readGoal(tokens, quest.stepCount, 0);
             tokens.expect(Token.SEMICOLON);
             into.questCount++;
         }
@@ -1322,23 +1322,18 @@ public final class QuestLedger {
     private static final class GoalReader {
         private static final int COUNTS = STEPS + 1;
 
-        private final Tokens tokens;
         /** For each depth, and each n from 0, with which sets at least n of the goals hold. */
         private final long[] atLeast = new long[NESTED * COUNTS];
 
-        GoalReader(Tokens tokens) {
-            this.tokens = tokens;
-        }
-
-        long readGoal(int steps, int depth) {
+        private long readGoal(Tokens tokens, int steps, int depth) {
             long any = 0;
-            long all = readSingle(steps, depth);
+            long all = readSingle(tokens, steps, depth);
             for (int n = 0; n < BUFFER; n++) {
                 if (tokens.take(Token.AND)) {
-                    all &= readSingle(steps, depth);
+                    all &= readSingle(tokens, steps, depth);
                 } else if (tokens.take(Token.OR)) {
                     any |= all;
-                    all = readSingle(steps, depth);
+                    all = readSingle(tokens, steps, depth);
                 } else {
                     return any | all;
                 }
@@ -1346,9 +1341,9 @@ public final class QuestLedger {
             return any | all;
         }
 
-        private long readSingle(int steps, int depth) {
+        private long readSingle(Tokens tokens, int steps, int depth) {
             if (tokens.ahead() != Token.NUMBER) {
-                return readGroup(steps, depth, 1, 1);
+                return readGroup(tokens, steps, depth, 1, 1);
             }
             int offset = tokens.start();
             int number = tokens.number(0, HUGE);
@@ -1356,7 +1351,7 @@ public final class QuestLedger {
                 if (number < 1 || number > STEPS) {
                     tokens.fail(OUT_OF_RANGE, offset);
                 }
-                return readGroup(steps, depth, number, BUFFER);
+                return readGroup(tokens, steps, depth, number, BUFFER);
             }
             if (number < 0 || number >= steps || number >= SETS_WITH.length) {
                 tokens.fail(OUT_OF_RANGE, offset);
@@ -1366,16 +1361,16 @@ public final class QuestLedger {
         }
 
         /** Reads at most so many goals in parentheses, of which at least the wanted ones are to hold. */
-        private long readGroup(int steps, int depth, int wanted, int most) {
+        private long readGroup(Tokens tokens, int steps, int depth, int wanted, int most) {
             if (!tokens.open(depth)) {
                 return 0;
             }
             for (int k = 0; k < COUNTS; k++) {
                 putTally(depth, k, k == 0 ? -1L : 0L);
             }
-            tally(depth, readGoal(steps, depth + 1));
+            tally(depth, readGoal(tokens, steps, depth + 1));
             for (int n = 1; n < most && tokens.take(Token.COMMA); n++) {
-                tally(depth, readGoal(steps, depth + 1));
+                tally(depth, readGoal(tokens, steps, depth + 1));
             }
             tokens.expect(Token.RIGHT);
             return tallied(depth, wanted);
@@ -1402,39 +1397,33 @@ public final class QuestLedger {
 
     /** A sum is read into worth code. */
     private static final class WorthReader {
-        private final Tokens tokens;
-
-        WorthReader(Tokens tokens) {
-            this.tokens = tokens;
-        }
-
-        void readSum(Ledger into, int depth) {
-            readTerm(into, depth);
+        private void readSum(Tokens tokens, Ledger into, int depth) {
+            readTerm(tokens, into, depth);
             for (int n = 0; n < BUFFER; n++) {
                 Token sign = tokens.ahead();
                 if (sign != Token.PLUS && sign != Token.MINUS) {
                     return;
                 }
                 tokens.skip();
-                readTerm(into, depth);
+                readTerm(tokens, into, depth);
                 into.appendCode(sign.code);
             }
         }
 
-        private void readTerm(Ledger into, int depth) {
-            readFactor(into, depth);
+        private void readTerm(Tokens tokens, Ledger into, int depth) {
+            readFactor(tokens, into, depth);
             for (int n = 0; n < BUFFER; n++) {
                 Token sign = tokens.ahead();
                 if (sign != Token.TIMES && sign != Token.OVER) {
                     return;
                 }
                 tokens.skip();
-                readFactor(into, depth);
+                readFactor(tokens, into, depth);
                 into.appendCode(sign.code);
             }
         }
 
-        private void readFactor(Ledger into, int depth) {
+        private void readFactor(Tokens tokens, Ledger into, int depth) {
             Token first = tokens.ahead();
             if (first == Token.NUMBER) {
                 into.appendCode(tokens.number(0, MOST_TOLD));
@@ -1442,7 +1431,7 @@ public final class QuestLedger {
                 into.appendCode(first.code);
                 tokens.skip();
             } else if (tokens.open(depth)) {
-                readSum(into, depth + 1);
+                readSum(tokens, into, depth + 1);
                 tokens.expect(Token.RIGHT);
             }
         }
