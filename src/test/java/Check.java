@@ -5,6 +5,8 @@ final class Check {
     private static final int MOST_SHOWN = 30;
     private static int wrong = 0;
     private static int compared = 0;
+    /** The sentence that is tested just now, told with what is wrong. */
+    private static String about = "";
 
     private Check() {
     }
@@ -19,9 +21,17 @@ final class Check {
         if (!want.equals(got)) {
             wrong++;
             if (wrong <= MOST_SHOWN) {
-                System.out.println(what + " answered " + got + ", due is " + want);
+                System.out.println(about + what + " answered " + got + ", due is " + want);
             }
         }
+    }
+
+    static void tellAbout(String sentence) {
+        about = sentence;
+    }
+
+    static int compared() {
+        return compared;
     }
 
     /** An exception counts as the answer "throws." and its name; one of the machine's own is told apart by its class. */
@@ -62,7 +72,7 @@ final class Check {
         int quests = load(ledger, text);
         if (quests < 0) {
             wrong++;
-            System.out.println("error " + quests + " at " + ledger.errorOffset() + " of: " + text);
+            System.out.println(about + "error " + quests + " at " + ledger.errorOffset() + " of: " + text);
         }
         return ledger;
     }
