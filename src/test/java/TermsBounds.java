@@ -598,7 +598,8 @@ final class TermsBounds {
         }
         // What is done behind 0 and 1, or 1 and 2, can be done in another order only, for one takes what the other needs.
         QuestLedger y = Setup.of("stock 0 1;", Setup.quest("0 and 1 and 4 or 0 and 2 and 3", "0 1 uses 0 1", "0 1 needs 0 1", "0 1", "0 1", "0 1"),
-            Setup.quest("0 and 1 and 2", "0 1 needs 0 1 uses 1 1", "0 1 uses 0 1", "0 1 gives 1 1"), Setup.quest("2 and 1 and 3", "0 1", "0 1 uses 0 1", "0 1", "0 1 needs 0 1 after 2"));
+            Setup.quest("0 and 1 and 2", "0 1 needs 0 1 uses 1 1", "0 1 uses 0 1", "0 1 gives 1 1"),
+            Setup.quest("2 and 1 and 3", "0 1", "0 1 uses 0 1", "0 1", "0 1 needs 0 1 after 2"));
         String[] others = {"023", "201", "231"};
         for (int k = 0; k < 3; k++) {
             int quest = k;
